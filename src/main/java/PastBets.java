@@ -311,8 +311,8 @@ public final class PastBets {
         int first = NONE;
         for (int news = 0; news <= NOTHING_BESIDES; news++) {
             if (makesAllSo(seen, news)) {
+                first = many == 0 ? news : first;
                 many++;
-                first = first == NONE ? news : first;
             }
         }
         return what == 0 ? many : first;
@@ -565,7 +565,7 @@ public final class PastBets {
         }
 
         int cell(int row, int column) {
-            if (!has(row) || column < 0 || column >= width) {
+            if (row < 0 || row >= size || column < 0 || column >= width) {
                 return 0;
             }
             return cells[row * width + column];
@@ -938,9 +938,9 @@ public final class PastBets {
             if (heldCount == 0) {
                 return;
             }
-            int sets = 1 << bets.size;
-            sumSets(bets, sets);
-            for (int set = 1; set < sets && set < SETS; set++) {
+            sumSets(bets);
+            int sets = Math.min(SETS, 1 << bets.size);
+            for (int set = 1; set < sets; set++) {
                 int win = leastWin(set, Math.max(1, sureWin));
                 boolean fewer = Integer.bitCount(set) < Integer.bitCount(sureSet);
                 if (win > sureWin || win == sureWin && win > 0 && fewer) {
@@ -978,16 +978,18 @@ public final class PastBets {
             return set;
         }
 
-        /** A set's sums are those of the set without its highest bet, and that bet's. */
-        private void sumSets(Table bets, int sets) {
+        /** Each bet doubles the sets that are summed: the old ones, and their copies with it. */
+        private void sumSets(Table bets) {
             pays[0] = 0;
             stakes[0] = 0;
-            for (int set = 1; set < sets && set < SETS; set++) {
-                int high = Integer.highestOneBit(set);
-                int bet = Integer.numberOfTrailingZeros(high);
+            for (int bet = 0; bet < bets.size && bet < MOST_BETS; bet++) {
                 int stake = bets.cell(bet, 3);
-                pays[set] = pays[set - high] + stake * bets.cell(bet, 4);
-                stakes[set] = stakes[set - high] + stake;
+                int pay = stake * bets.cell(bet, 4);
+                int half = 1 << bet;
+                for (int set = 0; set < half; set++) {
+                    pays[set + half] = pays[set] + pay;
+                    stakes[set + half] = stakes[set] + stake;
+                }
             }
         }
 
@@ -1101,8 +1103,7 @@ public final class PastBets {
         int readInto(Story story) {
             story.empty();
             behind = 0;
-            int items = 0;
-            for (int token = 0; token <= MOST_BYTES; token++) {
+            for (int items = 0; items <= MOST_BYTES; items++) {
                 takeToken();
                 if (sort == END) {
                     return items == 0 ? NONE : items;
@@ -1110,7 +1111,6 @@ public final class PastBets {
                 if (!readItem(story, items == 0)) {
                     return NONE;
                 }
-                items++;
             }
             return NONE;
         }
@@ -1120,7 +1120,8 @@ public final class PastBets {
                 return false;
             }
             if (first) {
-                return readStop();
+                takeToken();
+                return sort == STOP;
             }
             if (isWord("rule")) {
                 return readRow(story.laws, RULE_MOST);
@@ -1146,7 +1147,8 @@ public final class PastBets {
                 }
                 numbers[k] = x;
             }
-            if (!readStop()) {
+            takeToken();
+            if (sort != STOP) {
                 return false;
             }
             if (most.length == Table.NARROW) {
@@ -1155,11 +1157,6 @@ public final class PastBets {
                 table.addFive(numbers[0], numbers[1], numbers[2], numbers[3], numbers[4]);
             }
             return true;
-        }
-
-        private boolean readStop() {
-            takeToken();
-            return sort == STOP;
         }
 
         private void takeToken() {
@@ -1184,9 +1181,9 @@ public final class PastBets {
             }
         }
 
-        private int endOfRun(int of) {
+        private int endOfRun(int wanted) {
             int end = place;
-            while (end < size && (of == WORD ? isLetter(bytes[end]) : isFigure(bytes[end]))) {
+            while (end < size && (wanted == WORD ? isLetter(bytes[end]) : isFigure(bytes[end]))) {
                 end++;
             }
             return end;
