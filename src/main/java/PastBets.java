@@ -601,7 +601,10 @@ public final class PastBets {
                 return;
             }
             int at = row * width;
-            System.arraycopy(cells, at + width, cells, at, (size - row - 1) * width);
+            int behind = (size - row - 1) * width;
+            if (behind > 0) {
+                System.arraycopy(cells, at + width, cells, at, behind);
+            }
             size--;
         }
 
@@ -943,7 +946,7 @@ public final class PastBets {
             for (int set = 1; set < sets; set++) {
                 int win = leastWin(set, Math.max(1, sureWin));
                 boolean fewer = Integer.bitCount(set) < Integer.bitCount(sureSet);
-                if (win > sureWin || win == sureWin && win > 0 && fewer) {
+                if (win > sureWin || win == sureWin && fewer) {
                     sureSet = set;
                     sureWin = win;
                 }

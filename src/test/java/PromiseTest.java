@@ -110,6 +110,7 @@ public final class PromiseTest {
         long below = x.part(1);
         x.undo();
         x.status(9);
+        due("2 weights ahead", x.weighs(127), 3);
         due("2 finds there were", x.past(), 1);
         for (int what = 0; what <= 4; what++) {
             due("2 count " + what, x.count(what), 0);
@@ -178,6 +179,18 @@ public final class PromiseTest {
         due("5 the last has a number less", x.drop(1), 1);
         due("5 weighs 2", x.weighs(7), 2);
         due("5 undone", x.undo(), 2);
+        x.find(3, 1, 7);
+        x.find(4, 0, 1);
+        due("5 the first of four", x.drop(0), 3);
+        due("5 those behind stay", x.weighs(15), 5 * 7);
+        due("5 it is told again", x.find(6, 1, 6), 3);
+        due("5 the second of four", x.drop(1), 3);
+        due("5 those around stay", x.weighs(68), 5 * 6);
+        x.undo();
+        x.undo();
+        x.undo();
+        x.undo();
+        due("5 undone four times", x.undo(), 2);
         due("5 weighs undone", x.weighs(7), 10);
     }
 
@@ -210,6 +223,26 @@ public final class PromiseTest {
         }
         due("6 eight at most", x.undo(), NO);
         due("6 what was ahead of the eighth", x.weighs(1), 2 * 9);
+        undoTellsAndDrops();
+    }
+
+    /** Twelve steps, told and dropped by turns, so that each step back shows finds of its own. */
+    private static void undoTellsAndDrops() {
+        PastBets x = new PastBets();
+        long[] weights = new long[12];
+        for (int step = 0; step < 12; step++) {
+            weights[step] = x.weighs(1);
+            if (step % 3 == 2) {
+                x.drop(0);
+            } else {
+                x.find(0, 1, 1 + step % 9);
+            }
+        }
+        for (int step = 11; step >= 4; step--) {
+            x.undo();
+            due("6 ahead of step " + step, x.weighs(1), weights[step]);
+        }
+        due("6 no ninth", x.undo(), NO);
     }
 
     private static void promise7Bet() {
@@ -307,6 +340,10 @@ public final class PromiseTest {
         fault(" ;", 1);
         fault("pas;", 0);
         fault("pastt;", 0);
+        fault("pastz;", 0);
+        fault("pasta;", 0);
+        fault("pust;", 0);
+        fault("vast;", 0);
         fault("past;;", 5);
         fault("past 1;", 5);
         fault("past;rul", 5);
@@ -434,6 +471,11 @@ public final class PromiseTest {
         due("17 bad", x.settled(6, 0, 0), BAD);
         due("17 bad a", x.settled(0, -1, 0), BAD);
         refused("17", x, 2, 0, 0);
+        PastBets two = new PastBets();
+        for (int fact = 1; fact < 7; fact++) {
+            two.rule(3, 0, fact);
+        }
+        due("17 only 0 and 127", two.settled(0, 6, 6), 2);
         PastBets y = nothingFits();
         due("17 nothing fits", y.settled(0, 0, 0), NONE);
         due("17 bad first", y.settled(0, 0, 7), BAD);
@@ -449,6 +491,19 @@ public final class PromiseTest {
         fraction("18 by a find", x, 4, 5);
         x.chance(4, 0, 1);
         fraction("18 neither", x, 1, 10);
+        x.ifFound(4, 0, 1, 2, 0, 7);
+        fraction("18 neither, another fact found", x, 1, 10);
+        PastBets one = new PastBets();
+        for (int fact = 0; fact < 7; fact++) {
+            one.rule(1, fact, fact);
+        }
+        due("18 only 0 is possible", one.chance(4, 0, 6), 1);
+        fraction("18 only 0 is possible", one, 1, 1);
+        one.ifFound(4, 0, 6, 1, 0, 3);
+        fraction("19 only 0 is possible", one, 1, 1);
+        due("26 only 0 is possible", one.doped(), 0);
+        one.find(3, 1, 10);
+        due("26 only 0 is possible", one.doped(), 1);
         x.chance(5, 0, 0);
         fraction("18 never", x, 0, 1);
         due("18 bad", x.chance(0, 0, 7), BAD);
@@ -574,6 +629,20 @@ public final class PromiseTest {
         z.bet(1, 0, 0, 1, 5);
         due("23 of like ones the least bits", z.sure(0), 0b011);
         due("23 how much", z.sure(1), 4);
+        PastBets tied = new PastBets();
+        tied.bet(1, 0, 0, 10, 1);
+        tied.bet(1, 0, 0, 10, 1);
+        tied.bet(1, 0, 0, 20, 1);
+        tied.bet(0, 0, 0, 10, 3);
+        due("23 fewer, though of more bits", tied.sure(0), 0b1100);
+        due("23 how much", tied.sure(1), 10);
+        tied.off();
+        tied.bet(0, 0, 0, 1, 2);
+        tied.bet(1, 0, 0, 1, 2);
+        due("23 wins 1", tied.sure(0), 0b11);
+        due("23 wins 1", tied.sure(1), 1);
+        tied.off();
+        due("23 off", tied.sure(0), NONE);
         PastBets none = nothingFits();
         none.bet(0, 0, 0, 1, 9);
         due("23 nothing fits", none.sure(0), NONE);
@@ -636,6 +705,11 @@ public final class PromiseTest {
         x.find(0, 1, 10);
         x.find(0, 0, 0);
         due("26 the fewest, not the least", x.doped(), 0b00110);
+        PastBets y = new PastBets();
+        y.find(0, 0, 10);
+        y.find(0, 0, 10);
+        y.find(0, 1, 10);
+        due("26 one, not two of less bits", y.doped(), 0b100);
         x.rule(1, 1, 1);
         x.rule(2, 1, 1);
         due("26 none such", x.doped(), NONE);
@@ -784,11 +858,15 @@ public final class PromiseTest {
         due("33 the other was not", x.from(0), NO);
         x.past();
         x.find(5, 1, 1);
+        x.find(5, 1, 1);
+        due("33 weights ahead", x.weighs(3), 81);
         due("33 goes on", x.from(1), 1);
         due("33 all is as it was", x.digest(), kept);
         due("33 weights too", x.weighs(3), 3 * 6);
         due("33 it may be undone", x.undo(), 1);
         due("33 weights undone", x.weighs(3), 3);
+        due("33 it may be undone", x.undo(), 0);
+        due("33 weights undone", x.weighs(3), 1);
         x.type('b');
         x.chance(1, 6, 6);
         due("33 again", x.from(1), 1);
