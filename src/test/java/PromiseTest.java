@@ -1,11 +1,5 @@
 /** For each promise of the document: ordinary calls, the edges that it names, and wrong numbers, worked out by hand. */
-public final class PromiseTest {
-    private static final int BAD = PastBets.BAD;
-    private static final int NO = PastBets.NO;
-    private static final int FULL = PastBets.FULL;
-    private static final int NONE = PastBets.NONE;
-    private static int wrong = 0;
-
+public final class PromiseTest extends Checks {
     public static void main(String[] args) {
         promise1NewObject();
         promise2Past();
@@ -42,44 +36,7 @@ public final class PromiseTest {
         promise34Status();
         promise35Count();
         promise36Digest();
-        System.out.println("PromiseTest: " + wrong + " wrong");
-        if (wrong != 0) {
-            System.exit(1);
-        }
-    }
-
-    private static void due(String what, long got, long want) {
-        if (got != want) {
-            wrong++;
-            System.out.println(what + ": answered " + got + ", due is " + want);
-        }
-    }
-
-    private static void fraction(String what, PastBets x, long above, long below) {
-        due(what + ", above", x.part(0), above);
-        due(what + ", below", x.part(1), below);
-    }
-
-    private static void refused(String what, PastBets x, int bad, int no, int full) {
-        due(what + ", BAD", x.status(0), bad);
-        due(what + ", NO", x.status(1), no);
-        due(what + ", FULL", x.status(2), full);
-    }
-
-    private static int readText(PastBets x, String text) {
-        x.clear();
-        for (int i = 0; i < text.length(); i++) {
-            x.type(text.charAt(i));
-        }
-        return x.read();
-    }
-
-    /** Finds that rule each other out: fact 0 was surely so, and surely not. */
-    private static PastBets nothingFits() {
-        PastBets x = new PastBets();
-        x.find(0, 1, 10);
-        x.find(0, 0, 10);
-        return x;
+        finish("PromiseTest");
     }
 
     private static void promise1NewObject() {
