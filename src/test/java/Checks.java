@@ -75,6 +75,15 @@ abstract class Checks {
         }
     }
 
+    /** The digest of these numbers. */
+    static long mixed(long... values) {
+        long h = 1031;
+        for (long v : values) {
+            h = 31 * h + v;
+        }
+        return h;
+    }
+
     static void typeText(PastBets x, String text) {
         x.clear();
         for (int i = 0; i < text.length(); i++) {
@@ -100,6 +109,15 @@ abstract class Checks {
         PastBets x = new PastBets();
         for (int fact = 0; fact < 7; fact++) {
             x.find(fact, past >> fact & 1, 10);
+        }
+        return x;
+    }
+
+    /** No fact was so, by laws alone: one past is possible, and it weighs 1. */
+    static PastBets onlyPastZero() {
+        PastBets x = new PastBets();
+        for (int fact = 0; fact < 7; fact++) {
+            x.rule(1, fact, fact);
         }
         return x;
     }

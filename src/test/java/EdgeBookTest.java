@@ -281,9 +281,18 @@ public final class EdgeBookTest extends Checks {
         y.find(6, 1, 6);
         y.bet(2, 0, 6, 10, 1);
         due("the less sure of both", y.dig(0), 6);
+        y.bet(2, 0, 5, 10, 1);
+        y.find(5, 1, 10);
+        y.find(5, 1, 9);
+        due("the only one", y.dig(1), 0);
+        PastBets first = new PastBets();
+        first.find(0, 1, 6);
+        first.find(6, 1, 9);
+        first.bet(2, 0, 6, 10, 1);
+        due("the first, though another is worth something too", first.dig(0), 0);
         y.chance(0, 0, 0);
         y.dig(0);
-        fraction("THE FRACTION stays", y, 9, 10);
+        fraction("THE FRACTION stays by BEST DIG", y, 9, 10);
     }
 
     private static void bestDigFirst() {
@@ -316,6 +325,7 @@ public final class EdgeBookTest extends Checks {
             x.find(0, 1, 10);
         }
         due("something fits", x.doped(), 0);
+        due("the first past alone fits", onlyPastZero().doped(), 0);
         x.find(0, 0, 10);
         due("the last of ten", x.doped(), 1 << 9);
         x.past();

@@ -192,6 +192,8 @@ public final class EdgeChancesTest extends Checks {
         fraction("none such is true", x, 0, 1);
         x.ifFound(0, 6, 6, 6, 0, 0);
         fraction("that it was not is never true", x, 1, 1);
+        x.ifFound(4, 0, 6, 6, 0, 9);
+        fraction("neither was", x, 9, 20);
         due("no find has come", x.count(1), 0);
         due("none may be undone", x.count(4), 0);
     }
@@ -239,6 +241,9 @@ public final class EdgeChancesTest extends Checks {
         refused("both are refused", x, 0, 2, 0);
         due("nearly surely is enough", x.ifFound(0, 4, 4, 4, 0, 9), 1);
         fraction("nearly surely is enough", x, 1, 1);
+        PastBets least = onlyPastZero();
+        due("the least that may weigh is enough", least.ifFound(1, 0, 0, 6, 0, 1), 1);
+        fraction("the least that may weigh is enough", least, 1, 1);
         x.rule(3, 4, 5);
         due("found against a law", x.ifFound(0, 0, 0, 5, 0, 10), NO);
         due("something fits all the same", x.chance(0, 0, 0), 1);

@@ -109,6 +109,13 @@ public final class EdgePuntersTest extends Checks {
         known.find(1, 1, 10);
         known.price(2, 0, 1, 1, 1);
         told("besides all finds", known, 1, 1);
+        PastBets second = new PastBets();
+        second.price(2, 0, 6, 2, 1);
+        told("of both the second is needed as the first", second, 2, 1);
+        second.find(0, 1, 10);
+        told("the first is known", second, 13, 1);
+        second.price(5, 0, 6, 1, 1);
+        told("the second was not, but for the first price", second, 0, NONE);
     }
 
     private static void toldNothingBesides() {
@@ -150,6 +157,7 @@ public final class EdgePuntersTest extends Checks {
         PastBets x = new PastBets();
         x.rule(1, 0, 0);
         told("fact 0 was not, by a law", x, 14, 0);
+        told("no fact was so, by laws", onlyPastZero(), 8, 0);
         x.price(0, 0, 0, 99, 0);
         told("not gladly at 99 by what can not be", x, 14, 0);
     }
@@ -222,23 +230,32 @@ public final class EdgePuntersTest extends Checks {
             for (int fact = 2; fact < 7; fact++) {
                 x.find(fact, 0, 10);
             }
-            x.rule(2, 0, 1);
-            int truth = 1 + (int) (next(seed) / 65536 % 3);
             int first = dayOf(seed, 0);
             int second = dayOf(seed, 1);
             if (first > 0 && second > 0) {
+                int truth = (int) (next(seed) / 65536 % 4);
+                due("both", x.days(seed, 1, 2, 0, 1), 1);
+                fraction("of 0, 1, 2 and 3, seed " + seed, x, daysOfBoth(truth, first, second), 1);
+                x.rule(2, 0, 1);
+                truth = 1 + (int) (next(seed) / 65536 % 3);
                 due("both", x.days(seed, 1, 2, 0, 1), 1);
                 fraction("of 1, 2 and 3, seed " + seed, x, daysOfBoth(truth, first, second), 1);
             }
         }
     }
 
-    /** That both were: one that was not settles it; else, by the law, both must be found. */
+    /** That both were: one that was not so settles it; if both were, both must be found. */
     private static int daysOfBoth(int truth, int first, int second) {
-        if (truth == 1) {
-            return second;
+        switch (truth) {
+            case 0:
+                return Math.min(first, second);
+            case 1:
+                return second;
+            case 2:
+                return first;
+            default:
+                return Math.max(first, second);
         }
-        return truth == 2 ? first : Math.max(first, second);
     }
 
     private static void daysTillSettled() {

@@ -24,14 +24,6 @@ public final class EdgeStateTest extends Checks {
         finish("EdgeStateTest");
     }
 
-    private static long mixed(long... values) {
-        long h = 1031;
-        for (long v : values) {
-            h = 31 * h + v;
-        }
-        return h;
-    }
-
     private static void newObject() {
         sentence("As told; no LAWS, FINDS, BETS.");
         PastBets x = new PastBets();

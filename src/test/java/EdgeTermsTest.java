@@ -239,6 +239,8 @@ public final class EdgeTermsTest extends Checks {
             due("one past that weighs is enough", one.heaviest(), past);
             due("one past that weighs is enough", one.chance(0, 3, 3), 1);
         }
+        due("one past that weighs 1 is enough", onlyPastZero().chance(1, 3, 3), 1);
+        due("one past that weighs 1 is enough", onlyPastZero().heaviest(), 0);
     }
 
     private static void claimsOfKinds() {

@@ -93,6 +93,10 @@ public final class EdgeTextTest extends Checks {
         for (int what = 0; what < 5; what++) {
             due("of the bet, " + what, x.of(0, what), row[what]);
         }
+        due("all numbers apart", readText(x, "past;rule 0 1 2;find 3 1 4;bet 5 2 3 44 55;"), 4);
+        x.clear();
+        due("each is as told", x.digest(),
+            mixed(1, 1, 1, 0, 0, 0, 0, 1, 2, 3, 1, 4, 5, 2, 3, 44, 55, 0, 1));
         due("in any order", readText(x, "past;bet 0 0 0 1 0;find 1 1 9;rule 0 1 2;find 2 0 3;"), 5);
         due("one rule", x.count(0), 1);
         due("two finds, as they come", x.drop(0), 1);
@@ -106,6 +110,10 @@ public final class EdgeTextTest extends Checks {
         fault("past;Rule 0 0 0;", 5);
         fault("past;rulE 0 0 0;", 5);
         fault("pastrule 0 0 0;", 0);
+        fault("pasta;", 0);
+        fault("pastz;", 0);
+        fault("past;rulea 0 0 0;", 5);
+        fault("past;rulez 0 0 0;", 5);
         fault("past;rulerule 0 0 0;", 5);
         fault("past;a;", 5);
         fault("past;z;", 5);
@@ -146,6 +154,12 @@ public final class EdgeTextTest extends Checks {
         for (String word : new String[] {"p", "r", "rul", "rules", "fin", "finds", "be", "bets", "price", "pasts"}) {
             fault("past;" + word + " 0 0 0 1 1;", 5);
             fault("past; " + word, 6);
+        }
+        for (String word : new String[] {"past", "rule", "find", "bet"}) {
+            for (int at = 0; at < word.length(); at++) {
+                String other = word.substring(0, at) + "x" + word.substring(at + 1);
+                fault((word.equals("past") ? "" : "past;") + other + " 0 0 0 1 1;", word.equals("past") ? 0 : 5);
+            }
         }
         fault("pas;", 0);
         fault("pasts;", 0);

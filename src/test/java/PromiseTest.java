@@ -899,12 +899,4 @@ public final class PromiseTest extends Checks {
         due("36 below 0", x.digest(),
             mixed(1, 1, 1, 1, 1, 1, 1, 2, 3, 4, 1, 9, 5, 6, 0, 11, 12, 1, 2, 3, 4, 1, -99, 4));
     }
-
-    private static long mixed(long... values) {
-        long h = 1031;
-        for (long v : values) {
-            h = 31 * h + v;
-        }
-        return h;
-    }
 }
