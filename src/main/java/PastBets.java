@@ -869,6 +869,7 @@ public final class PastBets {
     /** What bets bring: the bookmaker's worst and mean, the punter's sure sets and digs. */
     private static final class Ledger {
         static final int SETS = 1 << MOST_BETS;
+        static final int MORE_THAN_ANY_WIN = MOST_BETS * MOST_STAKE * MOST_ODDS + 1;
 
         final boolean[] seenSet = new boolean[SETS];
         final int[] heldSets = new int[PASTS];
@@ -998,7 +999,7 @@ public final class PastBets {
 
         /** The least that a set wins, or 0 as soon as that is known to be less than a floor. */
         private int leastWin(int set, int floor) {
-            int least = Integer.MAX_VALUE;
+            int least = MORE_THAN_ANY_WIN;
             for (int k = 0; k < heldCount; k++) {
                 int held = heldSets[k] & set;
                 int win = pays[held] - stakes[set - held];

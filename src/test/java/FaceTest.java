@@ -110,11 +110,27 @@ public final class FaceTest {
         must(text.chars().allMatch(c -> c == '\n' || c >= 32 && c < 127), "the text is of plain signs");
         Matcher library = Pattern.compile("\\b(Math|Integer|Long|System|Arrays)\\.(\\w+)").matcher(text);
         Set<String> allowed = Set.of("Math.max", "Math.min", "Math.abs", "Integer.compare", "Integer.bitCount",
-            "Integer.MAX_VALUE", "System.arraycopy");
+            "System.arraycopy");
         while (library.find()) {
             must(allowed.contains(library.group()), "allowed is " + library.group());
         }
+        checkCalls(text);
         checkLengths(text);
+    }
+
+    /** What is called behind a dot is a method of an own class, or stands in the rules' list of the library. */
+    private static void checkCalls(String text) {
+        Set<String> known = new TreeSet<>(Set.of("length", "charAt", "max", "min", "abs", "compare", "bitCount",
+            "arraycopy"));
+        for (Class<?> inside : PastBets.class.getDeclaredClasses()) {
+            for (Method m : inside.getDeclaredMethods()) {
+                known.add(m.getName());
+            }
+        }
+        Matcher call = Pattern.compile("\\.\\s*(\\w+)\\(").matcher(text);
+        while (call.find()) {
+            must(known.contains(call.group(1)), "own, or of the library that is allowed, is " + call.group(1));
+        }
     }
 
     private static void checkLengths(String text) {
